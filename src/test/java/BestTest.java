@@ -14,6 +14,7 @@ public final class BestTest {
         spans();
         same();
         nothingThere();
+        fullColumn();
         CHECK.finish();
     }
 
@@ -257,5 +258,47 @@ public final class BestTest {
             CHECK.due("17", x.spans(), -1);
             CHECK.due("21", x.same(0), -1);
         }
+    }
+
+    /** Thirty rows, each read by one of eight styles alone. */
+    private static void fullColumn() {
+        DayColumn x = new DayColumn();
+        String marks = "abcdefgh";
+        for (int s = 0; s < 8; s++) {
+            Check.style(x, "D/M/Y" + marks.charAt(s), s);
+        }
+        int costs = 7;
+        for (int r = 0; r < 30; r++) {
+            int s = 7 - r % 8;
+            Check.row(x, (30 - r) + "/1/2001" + marks.charAt(s));
+            costs += r == 0 ? 0 : s;
+        }
+        x.price(0, 3);
+        x.price(1, 1000);
+        x.price(2, 2);
+        CHECK.due("11 all rows", x.cost(), costs + 29 * 3 + 29 * 2);
+        CHECK.due("17 all rows", x.spans(), 30);
+        CHECK.due("16 all rows", x.many(0), 30);
+        for (int r = 0; r < 30; r++) {
+            CHECK.due("12 row " + r, x.told(r), 7 - r % 8);
+            CHECK.due("13 row " + r, x.day(r, 1), x.number(30 - r, 1, 2001));
+            CHECK.due("21 row " + r, x.same(r), 1);
+        }
+        int last = 7 - 29 % 8;
+        CHECK.due("15 the last row as the one ahead", x.second(29), x.cost() - last - 3 - 2 + 1000);
+        dearest();
+    }
+
+    /** The highest cost there is: thirty rows that nothing reads. */
+    private static void dearest() {
+        DayColumn x = new DayColumn();
+        Check.style(x, "M/Y", 1000);
+        x.price(1, 1000);
+        for (int r = 0; r < 30; r++) {
+            Check.row(x, "x");
+        }
+        CHECK.due("11 the dearest", x.cost(), 31000);
+        CHECK.due("16 none read", x.many(3), 30);
+        CHECK.due("17 one span", x.spans(), 1);
     }
 }

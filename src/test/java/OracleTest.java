@@ -15,7 +15,8 @@ import java.util.regex.Pattern;
  */
 public final class OracleTest {
     static final String[] PATTERNS = {"D/M/Y", "M/D/Y", "D/M/y", "M/D/y", "y/M/D", "Y-M-D", "M/Y", "N Y", "M/y",
-        "D N Y", "W D N Y", "W N Y", "W, D/M/y", "YMD", "yMD", "DMy", "D. N y"};
+        "D N Y", "W D N Y", "W N Y", "W, D/M/y", "YMD", "yMD", "DMy", "D. N y",
+        "1/M/Y", "28/M/y"};
     private static final Check CHECK = new Check("OracleTest");
     private static final String MONTHS = "janfebmaraprmayjunjulaugsepoctnovdec";
     private static final String WEEK = "montuewedthufrisatsun";

@@ -11,6 +11,7 @@ public final class ReadTest {
         window();
         wrongArguments();
         readings();
+        fullCells();
         CHECK.finish();
     }
 
@@ -211,5 +212,31 @@ public final class ReadTest {
         CHECK.due("10 the eighth style", z.readings(1), 1);
         CHECK.due("10 all orders of 10 11 12", z.readings(2), 6);
         CHECK.due("10 all alike", z.readings(3), 1);
+        DayColumn month = Check.rows(Check.styles("D/M/Y", "1/M/Y", "30/M/Y"), "1/4/2001", "30/4/2001");
+        CHECK.due("10 a day and the month that begins with it", month.readings(0), 2);
+        CHECK.due("10 a day and the month that ends with it", month.readings(1), 2);
+        CHECK.due("14 unlike, so not sure", month.kind(0), 1);
+        CHECK.due("15 unlike, so another way", month.second(0), 10);
+    }
+
+    /** Cells of 24 bytes that end in the middle of a part, behind a cell whose bytes would fit. */
+    private static void fullCells() {
+        String[] patterns = {"0123456789012345678M-Y", "01234567890123456789Y-M", "012345678901234567Y-N",
+            "01234567890123456789M-y", "0123456789012345W M-Y", "0123456789012345678M Y ", "012345678901234567M-Y.."};
+        for (String pattern : patterns) {
+            DayColumn x = Check.styles(pattern);
+            String written = Check.written(x, x.number(1, 10, 2001), 0) + "1234";
+            for (int length = 0; length <= 24; length++) {
+                x.clear();
+                Check.row(x, "012345678901234567891234");
+                Check.row(x, written.substring(0, length));
+                boolean whole = length == written.length() - 4;
+                CHECK.due("9 '" + pattern + "' " + length + " bytes", x.read(1, 0, 0) != -1, whole);
+            }
+        }
+        DayColumn blanks = Check.rows(Check.styles("M Y "), "4 2001" + " ".repeat(18), "4 2001 ", " ".repeat(24));
+        CHECK.due("9 blanks up to the 24th byte", blanks.read(0, 0, 0), blanks.number(1, 4, 2001));
+        CHECK.due("9 fewer blanks behind more", blanks.read(1, 0, 0), blanks.number(1, 4, 2001));
+        CHECK.due("9 blanks alone", blanks.read(2, 0, 0), -1);
     }
 }
