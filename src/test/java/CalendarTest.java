@@ -1,6 +1,5 @@
 import java.time.LocalDate;
 import java.time.temporal.ChronoUnit;
-import java.util.NoSuchElementException;
 
 /** Promises 18 to 20: the parts of a day, the number of a day, a day written; java.time is the measure. */
 public final class CalendarTest {
@@ -33,27 +32,19 @@ public final class CalendarTest {
         }
     }
 
-    private static boolean throwsNoSuchElement(int day, int what) {
-        try {
-            new DayColumn().part(day, what);
-            return false;
-        } catch (NoSuchElementException e) {
-            return true;
-        }
-    }
-
     private static void noSuchParts() {
+        DayColumn x = new DayColumn();
         for (int day : new int[] {-1, DAYS, Integer.MIN_VALUE, Integer.MAX_VALUE}) {
             for (int what = 0; what < 4; what++) {
-                CHECK.due("18 no day " + day, throwsNoSuchElement(day, what), true);
+                CHECK.due("18 no day " + day, Check.partThrows(x, day, what), true);
             }
         }
         for (int what : new int[] {-1, 4, Integer.MIN_VALUE, Integer.MAX_VALUE}) {
-            CHECK.due("18 what " + what, throwsNoSuchElement(0, what), true);
-            CHECK.due("18 what " + what, throwsNoSuchElement(DAYS - 1, what), true);
+            CHECK.due("18 what " + what, Check.partThrows(x, 0, what), true);
+            CHECK.due("18 what " + what, Check.partThrows(x, DAYS - 1, what), true);
         }
-        CHECK.due("18 the first day", throwsNoSuchElement(0, 0), false);
-        CHECK.due("18 the last day", throwsNoSuchElement(DAYS - 1, 3), false);
+        CHECK.due("18 the first day", Check.partThrows(x, 0, 0), false);
+        CHECK.due("18 the last day", Check.partThrows(x, DAYS - 1, 3), false);
     }
 
     private static void noSuchNumbers() {

@@ -1,3 +1,7 @@
+import java.time.LocalDate;
+import java.time.temporal.ChronoUnit;
+import java.util.NoSuchElementException;
+
 /** Compares answers with what is due, and puts texts on a column's tape. */
 final class Check {
     private final String name;
@@ -20,10 +24,41 @@ final class Check {
         due(call, got ? 1 : 0, want ? 1 : 0);
     }
 
+    void due(String call, String got, String want) {
+        due(call + " (it gave '" + got + "', due is '" + want + "')", got.equals(want), true);
+    }
+
+    /** A cell that a pattern reads as one day. */
+    void reads(String pattern, String cell, int day, int month, int year) {
+        DayColumn x = rows(styles(pattern), cell);
+        int want = number(day, month, year);
+        due("first day of '" + cell + "' by '" + pattern + "'", x.read(0, 0, 0), want);
+        due("last day of '" + cell + "' by '" + pattern + "'", x.read(0, 0, 1), want);
+    }
+
+    /** A cell that a pattern reads as a whole month of so many days. */
+    void readsMonth(String pattern, String cell, int month, int year, int length) {
+        DayColumn x = rows(styles(pattern), cell);
+        int want = number(1, month, year);
+        due("first day of '" + cell + "' by '" + pattern + "'", x.read(0, 0, 0), want);
+        due("last day of '" + cell + "' by '" + pattern + "'", x.read(0, 0, 1), want + length - 1);
+    }
+
+    void readsNot(String pattern, String cell) {
+        DayColumn x = rows(styles(pattern), cell);
+        due("first day of '" + cell + "' by '" + pattern + "'", x.read(0, 0, 0), -1);
+        due("last day of '" + cell + "' by '" + pattern + "'", x.read(0, 0, 1), -1);
+    }
+
+    /** Whether there were answers, and all were those due. */
+    boolean isClean() {
+        return asked > 0 && wrong == 0;
+    }
+
     /** Ends the test: exit code 1 if one answer was not the one due. */
     void finish() {
         System.out.println(name + ": " + asked + " answers, " + wrong + " of them wrong");
-        if (wrong != 0 || asked == 0) {
+        if (!isClean()) {
             System.exit(1);
         }
     }
@@ -60,6 +95,20 @@ final class Check {
             row(x, cell);
         }
         return x;
+    }
+
+    /** The number of a day by java.time, so that a test of reading does not lean on the class's own count. */
+    static int number(int day, int month, int year) {
+        return (int) ChronoUnit.DAYS.between(LocalDate.of(1900, 1, 1), LocalDate.of(year, month, day));
+    }
+
+    static boolean partThrows(DayColumn x, int day, int what) {
+        try {
+            x.part(day, what);
+            return false;
+        } catch (NoSuchElementException e) {
+            return true;
+        }
     }
 
     /** What write answers for i = 0, 1, .. up to the first NONE. */

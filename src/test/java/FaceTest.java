@@ -78,13 +78,17 @@ public final class FaceTest {
 
     private static void anyArguments() {
         Random random = new Random(7);
-        for (int run = 0; run < 2000; run++) {
+        for (int run = 0; run < 4000; run++) {
             DayColumn x = new DayColumn();
-            for (int call = 0; call < 500; call++) {
+            int made = 0;
+            while (made < 500) {
                 if (random.nextInt(3) == 0) {
-                    Check.put(x, OracleTest.PATTERNS[random.nextInt(OracleTest.PATTERNS.length)]);
+                    String text = OracleTest.PATTERNS[random.nextInt(OracleTest.PATTERNS.length)];
+                    Check.put(x, text);
+                    made += 1 + (text.length() + 7) / 8;
                 }
                 int which = random.nextInt(FACE.length);
+                made++;
                 try {
                     callAny(x, which, wild(random), wild(random), wild(random));
                 } catch (NoSuchElementException e) {

@@ -15,129 +15,110 @@ public final class ReadTest {
         CHECK.finish();
     }
 
-    /** The day, or the first and last day, that a cell says by a pattern; d 0 for "not read". */
-    private static void says(String pattern, String cell, int d, int m, int y) {
-        DayColumn x = Check.rows(Check.styles(pattern), cell);
-        int want = d == 0 ? -1 : x.number(d, m, y);
-        CHECK.due("9 first of '" + cell + "' by '" + pattern + "'", x.read(0, 0, 0), want);
-        CHECK.due("9 last of '" + cell + "' by '" + pattern + "'", x.read(0, 0, 1), want);
-    }
-
-    private static void saysNot(String pattern, String cell) {
-        says(pattern, cell, 0, 0, 0);
-    }
-
     private static void digits() {
-        says("D/M/Y", "3/4/2001", 3, 4, 2001);
-        says("D/M/Y", "03/04/2001", 3, 4, 2001);
-        says("D/M/Y", "31/12/2199", 31, 12, 2199);
-        says("D/M/Y", "1/1/1900", 1, 1, 1900);
-        says("M/D/Y", "3/4/2001", 4, 3, 2001);
-        says("Y-M-D", "2001-4-3", 3, 4, 2001);
-        says("YMD", "20010403", 3, 4, 2001);
-        says("YMD", "2001123", 3, 12, 2001);
-        saysNot("YMD", "200143");
-        saysNot("YMD", "2001143");
-        saysNot("D/M/Y", "003/4/2001");
-        saysNot("D/M/Y", "/4/2001");
-        saysNot("D/M/Y", "3//2001");
-        saysNot("D/M/Y", "3/4/201");
-        saysNot("D/M/Y", "3/4/20011");
-        saysNot("D/M/Y", "3/4/");
-        saysNot("D/M/Y", "3/4/2001 ");
-        saysNot("D/M/Y", " 3/4/2001");
-        saysNot("D/M/Y", "3/4/200:");
-        saysNot("D/M/Y", "3/4/200/");
-        saysNot("D/M/Y", "");
-        saysNot("D/M/y", "3/4/2001");
-        saysNot("D/M/y", "3/4/1");
-        says("D/M/y", "3/4/01", 3, 4, 2001);
-        says("yMD", "010403", 3, 4, 2001);
-        saysNot("D1/M/Y", "31/4/2001");
-        says("D1/M/Y", "031/4/2001", 3, 4, 2001);
+        CHECK.reads("D/M/Y", "3/4/2001", 3, 4, 2001);
+        CHECK.reads("D/M/Y", "03/04/2001", 3, 4, 2001);
+        CHECK.reads("D/M/Y", "31/12/2199", 31, 12, 2199);
+        CHECK.reads("D/M/Y", "1/1/1900", 1, 1, 1900);
+        CHECK.reads("M/D/Y", "3/4/2001", 4, 3, 2001);
+        CHECK.reads("Y-M-D", "2001-4-3", 3, 4, 2001);
+        CHECK.reads("YMD", "20010403", 3, 4, 2001);
+        CHECK.reads("YMD", "2001123", 3, 12, 2001);
+        CHECK.readsNot("YMD", "200143");
+        CHECK.readsNot("YMD", "2001143");
+        CHECK.readsNot("D/M/Y", "003/4/2001");
+        CHECK.readsNot("D/M/Y", "/4/2001");
+        CHECK.readsNot("D/M/Y", "3//2001");
+        CHECK.readsNot("D/M/Y", "3/4/201");
+        CHECK.readsNot("D/M/Y", "3/4/20011");
+        CHECK.readsNot("D/M/Y", "3/4/");
+        CHECK.readsNot("D/M/Y", "3/4/2001 ");
+        CHECK.readsNot("D/M/Y", " 3/4/2001");
+        CHECK.readsNot("D/M/Y", "3/4/200:");
+        CHECK.readsNot("D/M/Y", "3/4/200/");
+        CHECK.readsNot("D/M/Y", "");
+        CHECK.readsNot("D/M/y", "3/4/2001");
+        CHECK.readsNot("D/M/y", "3/4/1");
+        CHECK.reads("D/M/y", "3/4/01", 3, 4, 2001);
+        CHECK.reads("yMD", "010403", 3, 4, 2001);
+        CHECK.readsNot("D1/M/Y", "31/4/2001");
+        CHECK.reads("D1/M/Y", "031/4/2001", 3, 4, 2001);
     }
 
     private static void words() {
         String[] names = {"jan", "feb", "mar", "apr", "may", "jun", "jul", "aug", "sep", "oct", "nov", "dec"};
         for (int m = 1; m <= 12; m++) {
-            says("D N Y", "3 " + names[m - 1] + " 2001", 3, m, 2001);
-            says("D N Y", "3 " + names[m - 1].toUpperCase() + " 2001", 3, m, 2001);
+            CHECK.reads("D N Y", "3 " + names[m - 1] + " 2001", 3, m, 2001);
+            CHECK.reads("D N Y", "3 " + names[m - 1].toUpperCase() + " 2001", 3, m, 2001);
         }
-        says("DNY", "3aPr2001", 3, 4, 2001);
-        saysNot("D N Y", "3 ap 2001");
-        saysNot("D N Y", "3 april 2001");
-        saysNot("D N Y", "3 anf 2001");
-        saysNot("D N Y", "3 4 2001");
-        saysNot("D M Y", "3 apr 2001");
-        saysNot("N Y D", "ap");
+        CHECK.reads("DNY", "3aPr2001", 3, 4, 2001);
+        CHECK.readsNot("D N Y", "3 ap 2001");
+        CHECK.readsNot("D N Y", "3 april 2001");
+        CHECK.readsNot("D N Y", "3 anf 2001");
+        CHECK.readsNot("D N Y", "3 4 2001");
+        CHECK.readsNot("D M Y", "3 apr 2001");
+        CHECK.readsNot("N Y D", "ap");
         String[] week = {"mon", "tue", "wed", "thu", "fri", "sat", "sun"};
         for (int w = 0; w < 7; w++) {
-            says("W D/M/Y", week[w] + " " + (w + 2) + "/4/2001", w + 2, 4, 2001);
-            says("D/M/Y W", (w + 2) + "/4/2001 " + week[w].toUpperCase(), w + 2, 4, 2001);
-            saysNot("W D/M/Y", week[w] + " " + (w + 3) + "/4/2001");
+            CHECK.reads("W D/M/Y", week[w] + " " + (w + 2) + "/4/2001", w + 2, 4, 2001);
+            CHECK.reads("D/M/Y W", (w + 2) + "/4/2001 " + week[w].toUpperCase(), w + 2, 4, 2001);
+            CHECK.readsNot("W D/M/Y", week[w] + " " + (w + 3) + "/4/2001");
         }
-        saysNot("W D/M/Y", "xxx 3/4/2001");
-        saysNot("W D/M/Y", "tu 3/4/2001");
-        saysNot("W D/M/Y", "[ue 3/4/2001");
-        saysNot("D N Y", "3 @pr 2001");
+        CHECK.readsNot("W D/M/Y", "xxx 3/4/2001");
+        CHECK.readsNot("W D/M/Y", "tu 3/4/2001");
+        CHECK.readsNot("W D/M/Y", "[ue 3/4/2001");
+        CHECK.readsNot("D N Y", "3 @pr 2001");
     }
 
     private static void blanksAndOthers() {
-        says("D N Y", "3    apr  2001", 3, 4, 2001);
-        saysNot("D N Y", "3apr 2001");
-        says(" D/M/Y ", "  3/4/2001 ", 3, 4, 2001);
-        saysNot(" D/M/Y ", "3/4/2001 ");
-        saysNot(" D/M/Y ", " 3/4/2001");
-        saysNot("D  M Y", "3  4 2001");
-        says("d:D m:M Y", "d:3 m:4 2001", 3, 4, 2001);
-        saysNot("d:D m:M Y", "D:3 m:4 2001");
-        saysNot("d:D m:M Y", "d:3 M:4 2001");
-        saysNot("D/M/Y", "3-4-2001");
-        saysNot("D/M/Y", "3/4 /2001");
-        says("Y~M~D", "2001~4~3", 3, 4, 2001);
-        says("0M0Y0D", "0040200103", 3, 4, 2001);
+        CHECK.reads("D N Y", "3    apr  2001", 3, 4, 2001);
+        CHECK.readsNot("D N Y", "3apr 2001");
+        CHECK.reads(" D/M/Y ", "  3/4/2001 ", 3, 4, 2001);
+        CHECK.readsNot(" D/M/Y ", "3/4/2001 ");
+        CHECK.readsNot(" D/M/Y ", " 3/4/2001");
+        CHECK.readsNot("D  M Y", "3  4 2001");
+        CHECK.reads("d:D m:M Y", "d:3 m:4 2001", 3, 4, 2001);
+        CHECK.readsNot("d:D m:M Y", "D:3 m:4 2001");
+        CHECK.readsNot("d:D m:M Y", "d:3 M:4 2001");
+        CHECK.readsNot("D/M/Y", "3-4-2001");
+        CHECK.readsNot("D/M/Y", "3/4 /2001");
+        CHECK.reads("Y~M~D", "2001~4~3", 3, 4, 2001);
+        CHECK.reads("0M0Y0D", "0040200103", 3, 4, 2001);
     }
 
     private static void daysThereAre() {
-        saysNot("D/M/Y", "0/4/2001");
-        saysNot("D/M/Y", "00/4/2001");
-        saysNot("D/M/Y", "3/0/2001");
-        saysNot("D/M/Y", "3/13/2001");
-        saysNot("D/M/Y", "31/4/2001");
-        saysNot("D/M/Y", "32/1/2001");
-        saysNot("D/M/Y", "29/2/2001");
-        saysNot("D/M/Y", "29/2/1900");
-        saysNot("D/M/Y", "29/2/2100");
-        saysNot("D/M/Y", "30/2/2000");
-        says("D/M/Y", "29/2/2000", 29, 2, 2000);
-        says("D/M/Y", "29/2/2096", 29, 2, 2096);
-        saysNot("D/M/Y", "31/12/1899");
-        saysNot("D/M/Y", "1/1/2200");
-        saysNot("D/M/Y", "1/1/0000");
-        saysNot("D/M/Y", "1/1/9999");
-    }
-
-    private static void saysMonth(String pattern, String cell, int m, int y, int length) {
-        DayColumn x = Check.rows(Check.styles(pattern), cell);
-        int first = x.number(1, m, y);
-        CHECK.due("9 first of '" + cell + "'", x.read(0, 0, 0), first);
-        CHECK.due("9 last of '" + cell + "'", x.read(0, 0, 1), first + length - 1);
+        CHECK.readsNot("D/M/Y", "0/4/2001");
+        CHECK.readsNot("D/M/Y", "00/4/2001");
+        CHECK.readsNot("D/M/Y", "3/0/2001");
+        CHECK.readsNot("D/M/Y", "3/13/2001");
+        CHECK.readsNot("D/M/Y", "31/4/2001");
+        CHECK.readsNot("D/M/Y", "32/1/2001");
+        CHECK.readsNot("D/M/Y", "29/2/2001");
+        CHECK.readsNot("D/M/Y", "29/2/1900");
+        CHECK.readsNot("D/M/Y", "29/2/2100");
+        CHECK.readsNot("D/M/Y", "30/2/2000");
+        CHECK.reads("D/M/Y", "29/2/2000", 29, 2, 2000);
+        CHECK.reads("D/M/Y", "29/2/2096", 29, 2, 2096);
+        CHECK.readsNot("D/M/Y", "31/12/1899");
+        CHECK.readsNot("D/M/Y", "1/1/2200");
+        CHECK.readsNot("D/M/Y", "1/1/0000");
+        CHECK.readsNot("D/M/Y", "1/1/9999");
     }
 
     private static void months() {
-        saysMonth("M/Y", "2/2000", 2, 2000, 29);
-        saysMonth("M/Y", "02/1900", 2, 1900, 28);
-        saysMonth("N Y", "apr 2001", 4, 2001, 30);
-        saysMonth("M/Y", "12/2199", 12, 2199, 31);
-        saysMonth("M/y", "1/50", 1, 1950, 31);
-        saysMonth("M/y", "1/49", 1, 2049, 31);
-        saysMonth("W N Y", "sun apr 2001", 4, 2001, 30);
-        saysNot("W N Y", "mon apr 2001");
-        saysNot("M/Y", "0/2001");
-        saysNot("M/Y", "13/2001");
-        saysNot("M/Y", "1/1/2001");
-        saysNot("M/Y", "1/2200");
-        saysNot("M/Y", "12/1899");
+        CHECK.readsMonth("M/Y", "2/2000", 2, 2000, 29);
+        CHECK.readsMonth("M/Y", "02/1900", 2, 1900, 28);
+        CHECK.readsMonth("N Y", "apr 2001", 4, 2001, 30);
+        CHECK.readsMonth("M/Y", "12/2199", 12, 2199, 31);
+        CHECK.readsMonth("M/y", "1/50", 1, 1950, 31);
+        CHECK.readsMonth("M/y", "1/49", 1, 2049, 31);
+        CHECK.readsMonth("W N Y", "sun apr 2001", 4, 2001, 30);
+        CHECK.readsNot("W N Y", "mon apr 2001");
+        CHECK.readsNot("M/Y", "0/2001");
+        CHECK.readsNot("M/Y", "13/2001");
+        CHECK.readsNot("M/Y", "1/1/2001");
+        CHECK.readsNot("M/Y", "1/2200");
+        CHECK.readsNot("M/Y", "12/1899");
     }
 
     private static void window() {
