@@ -1,11 +1,16 @@
+import java.io.IOException;
 import java.lang.reflect.Constructor;
 import java.lang.reflect.Field;
 import java.lang.reflect.Method;
 import java.lang.reflect.Modifier;
+import java.nio.file.Files;
+import java.nio.file.Path;
 import java.util.NoSuchElementException;
 import java.util.Random;
 import java.util.Set;
 import java.util.TreeSet;
+import java.util.regex.Matcher;
+import java.util.regex.Pattern;
 
 /** The public face is the document's and no more, and no call throws what the document does not name. */
 public final class FaceTest {
@@ -16,11 +21,42 @@ public final class FaceTest {
         "int spans()", "int part(int,int)", "int number(int,int,int)", "int write(int,int,int)", "int same(int)",
         "int count(int)"};
 
-    public static void main(String[] args) {
+    private static final Path DOCUMENT = Path.of("../shared/DOC.md");
+    private static final Pattern METHOD_THERE = Pattern.compile("(?m)^    public (\\w+ \\w+\\([^)]*\\))[^;=]*;");
+
+    public static void main(String[] args) throws IOException {
+        faceOfDocument();
         methods();
+        declaredExceptions();
         otherMembers();
         anyArguments();
         CHECK.finish();
+    }
+
+    /** The face that the other tests here hold the class to is the one that stands in the document. */
+    private static void faceOfDocument() throws IOException {
+        if (!Files.exists(DOCUMENT)) {
+            System.out.println("FaceTest: there is no " + DOCUMENT + " here, so the face is not looked up");
+            return;
+        }
+        Set<String> left = new TreeSet<>(Set.of(FACE));
+        Matcher method = METHOD_THERE.matcher(Files.readString(DOCUMENT));
+        while (method.find()) {
+            String text = method.group(1).replaceAll("(\\w+) \\w+(?=[,)])", "$1").replace(", ", ",");
+            CHECK.due("the document's " + text, left.remove(text), true);
+        }
+        CHECK.due("not in the document: " + left, left.size(), 0);
+    }
+
+    private static void declaredExceptions() {
+        for (Method m : DayColumn.class.getDeclaredMethods()) {
+            Class<?>[] thrown = m.getExceptionTypes();
+            boolean isPart = m.getName().equals("part");
+            CHECK.due("exceptions that " + m.getName() + " declares", thrown.length, isPart ? 1 : 0);
+            if (isPart && thrown.length == 1) {
+                CHECK.due("part declares NoSuchElementException", thrown[0] == NoSuchElementException.class, true);
+            }
+        }
     }
 
     private static void methods() {
@@ -46,6 +82,7 @@ public final class FaceTest {
     }
 
     private static void otherMembers() {
+        CHECK.due("public", Modifier.isPublic(DayColumn.class.getModifiers()), true);
         CHECK.due("final", Modifier.isFinal(DayColumn.class.getModifiers()), true);
         for (Field f : DayColumn.class.getDeclaredFields()) {
             boolean open = !Modifier.isPrivate(f.getModifiers());
